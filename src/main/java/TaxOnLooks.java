@@ -703,7 +703,7 @@ public final class TaxOnLooks {
             }
         }
 
-        /** An element as it is read, or NONE behind the end; in a text neither is a letter. */
+        /** An element read as an int; NONE behind the end, as no letter, step or duty is below 0. */
         int readAt(int i) {
             return i >= 0 && i < length ? (int) elements[i] : NONE;
         }
@@ -861,7 +861,9 @@ public final class TaxOnLooks {
         long lit() {
             long all = 0;
             for (int square = 0; square < SQUARES; square++) {
-                all = withBit(all, square, isLit(square));
+                if (isLit(square)) {
+                    all |= 1L << square;
+                }
             }
             return all;
         }

@@ -143,10 +143,13 @@ final class ShelfTest {
         due.is("nothing", x.show(0, -1), 0);
         due.is("holds nothing", x.holds(0), -1);
         x.row(1, 3, 4);
+        x.set(1, 0, 9);
         due.is("over a row", x.show(1, 0), 1);
         due.is("holds", x.holds(1), 0);
+        due.is("no element", x.element(1, 0), 0);
         due.is("a row over one", x.row(1, 1, 4), 1);
         due.is("holds", x.holds(1), 101);
+        x.set(1, 0, 9);
         due.is("nothing over a row", x.show(1, -1), 0);
         due.is("the row is gone", x.set(1, 0, 1), -3);
         due.is("no element", x.element(1, 0), 0);
