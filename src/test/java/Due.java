@@ -45,13 +45,18 @@ final class Due {
         }
     }
 
+    /** Tells a town by a text that must stand, by way of a shelf. */
+    static void settle(TaxOnLooks x, int s, String text) {
+        write(x, s, text);
+        if (x.town(s) < 0) {
+            throw new IllegalArgumentException("fault " + x.fault() + " in " + text);
+        }
+    }
+
     /** A town told by a text, by way of the last shelf. */
     static TaxOnLooks townOf(String text) {
         TaxOnLooks x = new TaxOnLooks();
-        write(x, 7, text);
-        if (x.town(7) < 0) {
-            throw new IllegalArgumentException("fault " + x.fault() + " in " + text);
-        }
+        settle(x, 7, text);
         return x;
     }
 }
