@@ -47,9 +47,10 @@ final class Edge {
         is(want, call.applyAsLong(x()));
     }
 
-    /** The call's answer; it changes nothing at all, and refuses nothing. */
+    /** The call's answer; it changes nothing at all, and refuses nothing: so it answers it again. */
     void asked(long want, ToLongFunction<TaxOnLooks> call) {
         TaxOnLooks x = x();
+        is(want, call.applyAsLong(x));
         is(want, call.applyAsLong(x));
         same(Told.of(x()), Told.of(x));
     }

@@ -360,6 +360,11 @@ final class Promises01To08EdgesTest {
         e.is(0, x.element(1, 0));
         x.show(1, -1);
         e.is(0, x.element(1, 0));
+        x.show(3, -1);
+        e.is(0, x.element(3, 0));
+        Due.tell(x, 0, 7);
+        x.show(0, -1);
+        e.is(0, x.element(0, 0));
         e.is(0, x.status(15));
     }
 

@@ -208,6 +208,22 @@ final class Promises18To21EdgesTest {
         e.asked(1, x -> x.glances(2, 1));
     }
 
+    static void promise19SevenLoversAtOneSquare(Edge e) {
+        for (int kind : new int[] {4, 6}) {
+            e.given(x -> {
+                for (int i = 0; i < 7; i++) {
+                    x.person(kind, 0, 10 + i % 3, 0, 0, 35);
+                }
+            });
+            // 2 and 5 show most: all but 2 glance at 2, and 2 at 5.
+            e.asked(123, x -> x.glances(2, 0));
+            e.asked(4, x -> x.glances(5, 0));
+            e.asked(32, x -> x.glances(2, 1));
+            e.asked(4, x -> x.glances(6, 1));
+            e.asked(0, x -> x.glances(6, 0));
+        }
+    }
+
     static void promise20NoSuchPersonOrWhat(Edge e) {
         e.refused(-1, x -> x.duty(0, 0));
         e.given(SHY + "0 0");
@@ -283,6 +299,25 @@ final class Promises18To21EdgesTest {
             e.given(crowdAround("person 1 0 20 9 0 0", t[0], t[1]));
             e.answers(t[0] * t[1], x -> x.duty(0, 0));
         }
+    }
+
+    static void promise20AllSevenOwe(Edge e) {
+        e.given(x -> {
+            for (int i = 0; i < 7; i++) {
+                x.person(0, 0, 20, 0, 0, 35);
+            }
+            x.build(35, 1, true);
+            x.ask(0, 9);
+        });
+        for (int who = 0; who < 7; who++) {
+            int of = who;
+            e.asked(54, x -> x.duty(of, 0));
+            e.asked(54, x -> x.duty(of, 1));
+        }
+        e.asked(378, x -> x.all(0));
+        e.asked(378, x -> x.all(1));
+        e.asked(127, x -> x.all(2));
+        e.asked(0, x -> x.all(3));
     }
 
     static void promise20ChildOwesNothing(Edge e) {

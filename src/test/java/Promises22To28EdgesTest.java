@@ -124,6 +124,42 @@ final class Promises22To28EdgesTest {
         walk(e, 0, 3, 1, 1, 3);
     }
 
+    static void promise22DearestWay(Edge e) {
+        // Along the one row without walls all six look at him at each square: 54 a step.
+        e.given(x -> {
+            x.person(1, 0, 20, 9, 0, 0);
+            for (int i = 1; i < 7; i++) {
+                x.person(0, 0, 0, 0, 0, 5);
+            }
+            for (int square = 0; square < 36; square++) {
+                x.build(square, 0, square > 5);
+                x.build(square, 1, true);
+            }
+            x.ask(0, 9);
+        });
+        walk(e, 0, 5, 270, 5, 1);
+        walk(e, 6, 0, 0, 5, 4);
+        e.refused(-11, x -> x.walk(7, 0, 0));
+    }
+
+    static void promise22LongestWay(Edge e) {
+        // To and fro through the rows 0, 2 and 4.
+        e.given(x -> {
+            x.person(0, 0, 0, 0, 0, 0);
+            for (int row = 1; row < 5; row += 2) {
+                for (int column = 0; column < 6; column++) {
+                    x.build(6 * row + column, 0, column != (row == 1 ? 5 : 0));
+                }
+            }
+            for (int square = 30; square < 35; square++) {
+                x.build(square, 0, true);
+            }
+        });
+        walk(e, 0, 30 + 5, 0, 20, 1);
+        walk(e, 0, 29, 0, 19, 1);
+        walk(e, 0, 24, 0, 14, 1);
+    }
+
     static void promise23NoSuchPersonOrWhat(Edge e) {
         e.refused(-1, x -> x.stand(0, 0));
         e.given("person 0 0 0 0 0 0");
@@ -185,6 +221,13 @@ final class Promises22To28EdgesTest {
         });
         stand(e, 0, 0, 2);
         e.asked(2, x -> x.duty(0, 0));
+    }
+
+    static void promise23TheSeventh(Edge e) {
+        e.given(Promises22To28EdgesTest::seven);
+        stand(e, 6, 7, 0);
+        stand(e, 0, 0, 0);
+        e.refused(-1, x -> x.stand(7, 0));
     }
 
     static void promise24NoSuchK(Edge e) {
@@ -380,6 +423,21 @@ final class Promises22To28EdgesTest {
         e.asked(15, x -> x.fits(0, 0));
     }
 
+    static void promise26AllSeven(Edge e) {
+        e.given(x -> {
+            seven(x);
+            Due.tell(x, 0, 0, 0, 0, 0, 6, 6, 6);
+        });
+        e.asked(0x1FFC00, x -> x.fits(0, 6));
+        e.asked(0x3FF, x -> x.fits(0, 0));
+        e.refused(-1, x -> x.fits(0, 7));
+        e.given(x -> {
+            seven(x);
+            Due.tell(x, 0, 0, 0, 0, 0, 6, 6);
+        });
+        e.refused(-5, x -> x.fits(0, 6));
+    }
+
     static void promise27Nobody(Edge e) {
         e.refused(-5, x -> x.most(0));
         e.refused(-5, x -> x.most(1));
@@ -453,6 +511,18 @@ final class Promises22To28EdgesTest {
         e.asked(15, x -> x.crowd(0));
         e.given("person 0 0 0 0 0 35;person 0 0 0 0 0 35;person 0 0 0 0 0 0;reach 4");
         e.asked(11, x -> x.crowd(0));
+    }
+
+    static void promise28AllSeven(Edge e) {
+        e.given(Promises22To28EdgesTest::seven);
+        e.asked(0, x -> x.crowd(0));
+        e.given(x -> {
+            seven(x);
+            x.put(4, 7);
+            x.put(5, 7);
+            x.put(6, 7);
+        });
+        e.asked(1, x -> x.crowd(0));
     }
 
     static void promise28LitSquares(Edge e) {

@@ -426,6 +426,30 @@ final class Promises29To33EdgesTest {
         e.is(9, x.status(8));
     }
 
+    static void promise32AllSevenPay(Edge e) {
+        // Who can't walk stays: each is walled in with all others, and owes 6.
+        e.given(x -> {
+            for (int i = 0; i < 7; i++) {
+                x.person(0, 0, 20, 0, 3 * i, 35);
+            }
+            x.build(29, 0, true);
+            x.build(34, 0, true);
+            x.build(35, 1, true);
+        });
+        TaxOnLooks x = e.x();
+        e.is(33, x.hours(1));
+        int[] left = {0, 0, 0, 3, 6, 9, 12};
+        int seed = next(1);
+        for (int i = 0; i < 7; i++) {
+            e.is(left[i], x.personOf(i, 4));
+            e.is(35, x.personOf(i, 5));
+            seed = next(seed);
+        }
+        e.is(seed, x.status(9));
+        e.is(63, x.hours(40));
+        e.is(0, x.status(8));
+    }
+
     static void promise33AnySeed(Edge e) {
         TaxOnLooks x = e.x();
         int was = 1;
